@@ -327,7 +327,7 @@ public final class ModeDesk {
         }
         tallySpan(l, r);
         int chosen = tally.best;
-        int most = row.weightOf(chosen, l, r);
+        int most = 0;
         for (int i = 0; i < tally.kinds; i++) {
             int v = tally.kind[i];
             int weight = row.weightOf(v, l, r);

@@ -15,6 +15,7 @@ public final class PromiseTest {
         test.inOneSpan();
         test.overSpans();
         test.ofTheWholeRow();
+        test.noSuchSpans();
         test.check.end("PromiseTest");
     }
 
@@ -130,6 +131,7 @@ public final class PromiseTest {
         for (int what = 0; what < want.length; what++) {
             due("new: count(" + what + ")", x.count(what), want[what]);
         }
+        due("new: refreshed()", x.refreshed(), -2);
         due("new: text(0)", x.text(0), 0);
         due("new: text(1)", x.text(1), -2);
         due("NONE", ModeDesk.NONE, -1);
@@ -198,6 +200,8 @@ public final class PromiseTest {
         row(x, 1, 2, 3, 0, 999);
         due("weights between rows", Told.text(x, "row 7;weight 0 9;row 8;weight 1 2;weight 0 4;"), 5);
         weights(x, 4, 2);
+        due("the least weight", Told.text(x, "row 7;weight 0 9;weight 0 1;"), 3);
+        weights(x, 1);
         due("naughts ahead", Told.text(x, "row 000999 0;weight 01 0000000000009;block 0020;"), 3);
         row(x, 999, 0);
         weights(x, 1, 9);
@@ -239,6 +243,8 @@ public final class PromiseTest {
         fault("5;", 1, 0);
         fault("rows 1;", 1, 0);
         fault("ro 1;", 1, 0);
+        fault("rowz 1;", 1, 0);
+        fault("rowa 1;", 1, 0);
         fault("row;", 1, 3);
         fault("row", 1, 3);
         fault("row  ", 1, 5);
@@ -279,6 +285,9 @@ public final class PromiseTest {
         fault("block 3;block 99 x", 3, 8);
         fault("row 1;;", 1, 6);
         fault("row 1;weight 5 99;", 1, 13);
+        cut("row 12;", 5, 5);
+        cut("rowx 1;", 3, 3);
+        cut("row 1 ;", 6, 6);
         ModeDesk x = new ModeDesk();
         due("fault(0) ahead of any", x.fault(0), 0);
         due("fault(1) ahead of any", x.fault(1), -1);
@@ -293,6 +302,14 @@ public final class PromiseTest {
         due("fault(1) after a good one", x.fault(1), -1);
     }
 
+    private void cut(String text, int n, int place) {
+        ModeDesk x = new ModeDesk();
+        Told.feed(x, text);
+        due("text(" + n + ") of <" + text + ">", x.text(n), -1);
+        due("fault(0) of it", x.fault(0), 1);
+        due("fault(1) of it", x.fault(1), place);
+    }
+
     private void promise5() {
         ModeDesk x = Told.desk(ROW);
         int[][] want = {{0, 4, 1, 0, 0, 2, -2}, {1, 9, 5, 0, 0, 4, -2}, {2, 4, 1, 0, 1, 5, 0}, {3, 2, 3, 1, 0, 7, -2},
@@ -302,6 +319,9 @@ public final class PromiseTest {
                 due("place(" + w[0] + ", " + what + ")", Told.place(x, w[0], what), w[what + 1]);
             }
         }
+        ModeDesk y = Told.desk("row 3 3;");
+        due("place(0, 4) of neighbours", Told.place(y, 0, 4), 1);
+        due("place(1, 5) of neighbours", Told.place(y, 1, 5), 0);
         due("place(-1, 0)", Told.place(x, -1, 0), Told.OUT_OF_BOUNDS);
         due("place(9, 0)", Told.place(x, 9, 0), Told.OUT_OF_BOUNDS);
         due("place(MAX, 9)", Told.place(x, MAX, 9), Told.OUT_OF_BOUNDS);
@@ -442,6 +462,7 @@ public final class PromiseTest {
         due("shift(0, 8, 9)", x.shift(0, 8, 9), 0);
         due("edits", x.count(6), 2);
         due("shift(0, 8, 10)", x.shift(0, 8, 10), -1);
+        due("shift(3, 4, 3)", x.shift(3, 4, 3), -1);
         due("shift(0, 8, -1)", x.shift(0, 8, -1), -1);
         due("shift(2, 1, 0)", x.shift(2, 1, 0), -1);
         due("shift(0, 9, 1)", x.shift(0, 9, 1), -1);
@@ -702,6 +723,7 @@ public final class PromiseTest {
 
     private void promise23() {
         ModeDesk x = Told.desk(ROW);
+        due("at(4, 0)", x.at(4, 0), 0);
         due("at(2, 0)", x.at(2, 0), 3);
         due("at(2, 1)", x.at(2, 1), 7);
         due("at(2, 2)", x.at(2, 2), 8);
@@ -776,6 +798,9 @@ public final class PromiseTest {
         due("pair(3, 3, 1)", x.pair(3, 3, 1), 2);
         due("pair(0, 3, 0)", x.pair(0, 3, 0), 9);
         due("pair(0, 3, 1)", x.pair(0, 3, 1), 4);
+        ModeDesk y = Told.desk("row 1 2 2 1 1 1;block 2;");
+        due("pair(0, 1, 1), nothing beyond it", y.pair(0, 1, 1), 2);
+        due("pair(1, 2, 1), nothing ahead of it", y.pair(1, 2, 1), 3);
         due("pair(1, 0, 0)", x.pair(1, 0, 0), -1);
         due("pair(0, 4, 0)", x.pair(0, 4, 0), -1);
         due("pair(4, 4, 0)", x.pair(4, 4, 0), -1);
@@ -863,6 +888,60 @@ public final class PromiseTest {
         due("run(1, 0, 0)", x.run(1, 0, 0), -1);
     }
 
+    // ---- wrong spans, of all calls that take one ----
+
+    private void noSuchSpans() {
+        int[][] spans = {{-1, 3}, {-1, -1}, {3, 2}, {0, 9}, {9, 9}, {8, 9}, {MIN, MAX}, {0, MAX}, {MIN, 0}, {MAX, MIN}};
+        ModeDesk x = Told.desk(ROW);
+        for (int[] s : spans) {
+            String of = " of no such span " + s[0] + ", " + s[1];
+            noEdit(x, s[0], s[1], of);
+            noRank(x, s[0], s[1], of);
+            noOther(x, s[0], s[1], of);
+        }
+        due("no edits", x.count(6), 0);
+        row(x, 4, 9, 4, 2, 9, 4, 7, 2, 2);
+    }
+
+    private void noEdit(ModeDesk x, int l, int r, String of) {
+        due("fill" + of, x.fill(l, r, 1), -1);
+        due("flip" + of, x.flip(l, r), -1);
+        due("shift" + of, x.shift(l, r, 0), -1);
+        due("sort" + of, x.sort(l, r, true), -1);
+    }
+
+    private void noRank(ModeDesk x, int l, int r, String of) {
+        due("mode" + of, x.mode(l, r, 0), -1);
+        due("ranked" + of, x.ranked(l, r, 9, 0), -1);
+        due("rank" + of, x.rank(l, r, 0), -1);
+        due("often" + of, x.often(l, r, 4), -1);
+        due("unlike" + of, x.unlike(l, r), -1);
+        due("times" + of, x.times(l, r, 1), -1);
+        due("majority" + of, x.majority(l, r), -1);
+        due("heaviest" + of, x.heaviest(l, r, 0), -1);
+        due("candidate" + of, x.candidate(l, r, 200), -1);
+        due("lead" + of, x.lead(l, r), -1);
+        due("rarest" + of, x.rarest(l, r, 0), -1);
+        due("peeled" + of, x.peeled(l, r, 200), -1);
+        due("needed" + of, x.needed(l, r, 4), -1);
+        due("ifTies" + of, x.ifTies(0, l, r), -1);
+    }
+
+    private void noOther(ModeDesk x, int l, int r, String of) {
+        due("median" + of, x.median(l, r), -1);
+        due("twisted" + of, x.twisted(l, r), -1);
+        due("run" + of, x.run(l, r, 0), -1);
+        due("common" + of, x.common(l, r, 0), -1);
+        due("together" + of, x.together(l, r, 0, 0, 0), -1);
+        due("together, the other one" + of, x.together(0, 0, l, r, 0), -1);
+        due("split" + of, x.split(l, r, 0), -1);
+        due("ifSet" + of, x.ifSet(0, 4, l, r), -1);
+        due("ifOut of l" + of, x.ifOut(l, l, r), -1);
+        due("ifOut of r" + of, x.ifOut(r, l, r), -1);
+        due("agree ahead" + of, x.agree(l, r, 8), -1);
+        due("agree of both ends" + of, x.agree(l, l, r), -1);
+    }
+
     // ---- two spans, what would be ----
 
     private void promise33() {
@@ -905,6 +984,7 @@ public final class PromiseTest {
         due("ifSet(0, 9, 0, 8)", x.ifSet(0, 9, 0, 8), 9);
         due("ifSet(0, 500, 0, 0)", x.ifSet(0, 500, 0, 0), 500);
         due("ifSet(0, 2, 1, 5), a place elsewhere", x.ifSet(0, 2, 1, 5), 9);
+        due("last: ifSet(0, 3, 0, 2)", Told.desk("row 1 2 3;ties last;").ifSet(0, 4, 0, 2), 3);
         due("ifSet(9, 2, 0, 8)", x.ifSet(9, 2, 0, 8), -1);
         due("ifSet(-1, 2, 0, 8)", x.ifSet(-1, 2, 0, 8), -1);
         due("ifSet(0, 1000, 0, 8)", x.ifSet(0, 1000, 0, 8), -1);
@@ -921,6 +1001,7 @@ public final class PromiseTest {
         due("ifOut(0, 0, 1)", x.ifOut(0, 0, 1), 9);
         due("ifOut(1, 0, 1)", x.ifOut(1, 0, 1), 4);
         due("ifOut(7, 7, 8)", x.ifOut(7, 7, 8), 2);
+        due("last: ifOut(2, 0, 2)", Told.desk("row 1 2 3;ties last;").ifOut(2, 0, 2), 2);
         due("ifOut(4, 4, 4)", x.ifOut(4, 4, 4), -2);
         due("ifOut(3, 4, 5)", x.ifOut(3, 4, 5), -1);
         due("ifOut(6, 4, 5)", x.ifOut(6, 4, 5), -1);
@@ -1040,6 +1121,7 @@ public final class PromiseTest {
         due("agree(3, 6, 8)", x.agree(3, 6, 8), 1);
         due("agree(7, 7, 8)", x.agree(7, 7, 8), 1);
         due("agree(0, 5, 8)", x.agree(0, 5, 8), 0);
+        due("agree(2, 2, 4), nothing ahead of it", Told.desk("row 3 8 8 3 3;").agree(2, 2, 4), 0);
         due("agree(0, 8, 8)", x.agree(0, 8, 8), -1);
         due("agree(0, 8, 9)", x.agree(0, 8, 9), -1);
         due("agree(3, 2, 8)", x.agree(3, 2, 8), -1);
@@ -1076,6 +1158,8 @@ public final class PromiseTest {
         due("window(1, 8)", x.window(1, 8), 2);
         due("window(10, 0)", x.window(10, 0), -1);
         due("window(0, 0)", x.window(0, 0), -1);
+        due("window(0, MAX)", x.window(0, MAX), -1);
+        due("window(10, MAX)", x.window(10, MAX), -1);
         due("window(3, -1)", x.window(3, -1), -1);
     }
 
@@ -1130,7 +1214,7 @@ public final class PromiseTest {
         due("longest(4, -1)", x.longest(4, -1), -1);
         due("longest(1000, 0)", x.longest(1000, 0), -1);
         due("longest(-1, 0)", x.longest(-1, 0), -1);
-        ModeDesk y = Told.desk("row 7 1 1 7;ties least;");
+        ModeDesk y = Told.desk("row 7 1 1 7 1 1;ties least;");
         due("the least l of several", y.longest(7, 0), 0);
         due("and its r", y.longest(7, 1), 0);
         ModeDesk z = Told.desk("row 1 7 1;ties least;");
@@ -1192,7 +1276,13 @@ public final class PromiseTest {
         beginnings(Told.desk(ROW), 0, -2, 1, 8);
         // last: 4; 9; 4; 4; 9; 4; 4; 4; 2
         beginnings(Told.desk(ROW + "ties last;"), 5, 8, 3, 2);
-        beginnings(Told.desk("row 1 1 1 2 2 2 2 3;"), 1, 6, 2, 5);
+        ModeDesk x = Told.desk("row 1 1 1 2 2 2 2 3;");
+        beginnings(x, 1, 6, 2, 5);
+        x.set(0, 2);
+        // 2: 2; 2 1: 2; 2 1 1: 1; 2 1 1 2 and all from there on: 2
+        beginnings(x, 2, 3, 2, 4);
+        x.fill(0, 7, 2);
+        beginnings(x, 0, -2, 1, 7);
     }
 
     private void promise53() {
@@ -1218,6 +1308,9 @@ public final class PromiseTest {
         due("wide(0)", x.wide(0), -1);
         due("wide(-1)", x.wide(-1), -1);
         due("empty: wide(1)", new ModeDesk().wide(1), -2);
+        // Of 120 places in sevens, the value 0 stands 18 times, of places 0 to 119.
+        due("full: wide(18)", full().wide(18), 120);
+        due("full: wide(19)", full().wide(19), -2);
         due("all as wide as the row", Told.desk("row 3 3 3;").wide(3), 3);
     }
 
@@ -1243,6 +1336,13 @@ public final class PromiseTest {
         // 1 | 1 2 2 2, 1 1 | 2 2 2, 1 1 2 | 2 2 2 ... : by three of five one part is enough.
         parts(Told.desk("row 1 1 2 2 2;"), 0);
         parts(Told.desk("row 1 1 2 2;"), 0, 1);
+        // 1 2 has no majority, though 1 3 3 would be a part.
+        ModeDesk y = Told.desk("row 1 2 1 3 3;");
+        parts(y, 0, 3);
+        y.remove(4);
+        parts(y, 0, 3);
+        y.remove(3);
+        parts(y, 0);
         ModeDesk x = full();
         due("seven values in turn", x.part(-1), 120);
     }
@@ -1253,6 +1353,7 @@ public final class PromiseTest {
         for (int what = 0; what < want.length; what++) {
             due("count(" + what + ")", x.count(what), want[what]);
         }
+        due("unlike values up to the last", Told.desk("row 1 1 2;").count(5), 2);
         due("count(9)", x.count(9), -1);
         due("count(-1)", x.count(-1), -1);
         x.insert(0, 50);
