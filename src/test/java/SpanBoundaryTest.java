@@ -371,6 +371,9 @@ public final class SpanBoundaryTest extends Cases {
         each(what -> x.heaviest(0, 8, what), 9, 6);
         ModeDesk y = full(p -> 0, "");
         each(what -> y.heaviest(0, 119, what), 0, 120);
+        ModeDesk z = full(p -> p, "weight 119 9;");
+        each(what -> z.heaviest(0, 119, what), 119, 9);
+        each(what -> z.heaviest(0, 118, what), 0, 1);
     }
 
     @Says("Promise 27: NONE: no such ones")
@@ -640,6 +643,10 @@ public final class SpanBoundaryTest extends Cases {
         ModeDesk y = full(p -> 5, "");
         due(y.common(0, 119, 0), 120);
         due(y.common(0, 59, 60), 60);
+        ModeDesk z = full(p -> p, "");
+        due(z.common(0, 119, 0), 120);
+        due(z.common(0, 59, 60), 0);
+        due(z.common(0, 118, 1), 118);
     }
 
     @Says("Promise 33: NONE: no such ones")
@@ -853,6 +860,7 @@ public final class SpanBoundaryTest extends Cases {
         due(desk(5, 6, 7, 7, 6).lead(0, 4), 0);
         due(desk(5, 5, 5, 6, 7).lead(0, 4), 2);
         due(full(p -> p < 61 ? 1 : 2, "").lead(0, 119), 2);
+        due(full(p -> p, "").lead(0, 119), 0);
     }
 
     @Says("Promise 43: NONE: no such SPAN")
