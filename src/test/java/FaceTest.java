@@ -15,9 +15,8 @@ import java.util.List;
 import java.util.Map;
 import java.util.Set;
 import java.util.TreeSet;
-import java.util.regex.Pattern;
 
-/** The face is the document's, and the source keeps to what of LANGUAGE.md can be seen from outside. */
+/** The face is the document's, nothing else is seen, and a desk is small. */
 public final class FaceTest {
     private final Check check = new Check();
 
@@ -25,10 +24,7 @@ public final class FaceTest {
         FaceTest test = new FaceTest();
         test.faceIsThatOf(Files.readString(Path.of(args[0]), StandardCharsets.UTF_8));
         test.nothingElseIsSeen();
-        test.statesAreNotStatic();
-        test.classesAreFew();
         test.aDeskIsSmall();
-        test.sourceKeepsTo(Files.readString(Path.of(args[1]), StandardCharsets.ISO_8859_1));
         test.check.end("FaceTest");
     }
 
@@ -37,7 +33,11 @@ public final class FaceTest {
         for (Class<?> type : m.getParameterTypes()) {
             s.append(type.getName()).append(',');
         }
-        return s.append(')').toString();
+        s.append(')');
+        for (Class<?> thrown : m.getExceptionTypes()) {
+            s.append(' ').append(thrown.getSimpleName());
+        }
+        return s.toString();
     }
 
     private void faceIsThatOf(String document) {
@@ -50,7 +50,8 @@ public final class FaceTest {
                 for (String parameter : told.substring(told.indexOf('(') + 1, told.indexOf(')')).split(",")) {
                     s.append(parameter.isBlank() ? "" : parameter.trim().split(" ")[0] + ",");
                 }
-                want.add(s.append(')').toString());
+                s.append(')').append(told.substring(told.indexOf(')') + 1).replaceAll(" throws|[,;]", ""));
+                want.add(s.toString());
             }
         }
         Set<String> got = new TreeSet<>();
@@ -81,15 +82,10 @@ public final class FaceTest {
                 hidden(f);
             }
         }
-        for (Class<?> inside : ModeDesk.class.getDeclaredClasses()) {
-            check.due(inside + " is static", Modifier.isStatic(inside.getModifiers()), true);
-            check.due(inside + " is hidden", (inside.getModifiers() & (Modifier.PUBLIC | Modifier.PROTECTED)) == 0, true);
-        }
         for (Class<?> c : classes()) {
             for (Method m : c.getDeclaredMethods()) {
                 boolean bears = !Modifier.isPublic(m.getModifiers()) && publicNames.contains(m.getName());
                 check.due(m + " bears a public one's name", bears, false);
-                check.due("parameters of " + m + " are few", m.getParameterCount() <= 7, true);
             }
         }
     }
@@ -102,62 +98,6 @@ public final class FaceTest {
         List<Class<?>> all = new ArrayList<>(List.of(ModeDesk.class.getDeclaredClasses()));
         all.add(ModeDesk.class);
         return all;
-    }
-
-    private void statesAreNotStatic() {
-        for (Class<?> c : classes()) {
-            int fields = 0;
-            for (Field f : c.getDeclaredFields()) {
-                if (Modifier.isStatic(f.getModifiers())) {
-                    check.due(f + " is final", Modifier.isFinal(f.getModifiers()), true);
-                } else {
-                    fields++;
-                }
-            }
-            check.due("fields of " + c + " are few", fields <= 20, true);
-        }
-    }
-
-    private void classesAreFew() {
-        check.due("the classes are few", classes().size() <= 12, true);
-    }
-
-    private void sourceKeepsTo(String source) {
-        String[] refused = {"::", "finally", "synchronized", "assert ", "static {", "package ", "System.out", "getMessage", "hashCode"};
-        for (String word : refused) {
-            check.due("the source holds <" + word + ">", source.contains(word), false);
-        }
-        for (String line : source.split("\n")) {
-            if (line.startsWith("import ")) {
-                check.due(line, line.equals("import java.util.NoSuchElementException;"), true);
-            }
-        }
-        check.due("the source is of signs up to 127", source.chars().allMatch(c -> c < 128), true);
-        check.due("the source holds a lambda", Pattern.compile("[(,=]\\s*(\\([\\w\\s,]*\\)|\\w+)\\s*->").matcher(source).find(), false);
-        methodsAreShort(source.split("\n"));
-        callsMakeNothing(source.split("\n"));
-    }
-
-    private void methodsAreShort(String[] lines) {
-        for (int i = 0; i < lines.length; i++) {
-            if (lines[i].matches("( {4}| {8})[a-z].*\\) (throws .*)?\\{") && !lines[i].contains(" class ")) {
-                String end = lines[i].replaceAll("\\S.*", "}");
-                int k = i;
-                while (k < lines.length && !lines[k].equals(end)) {
-                    k++;
-                }
-                check.due("<" + lines[i].trim() + "> is short", k - i <= 60, true);
-            }
-        }
-    }
-
-    /** All rows are made with the desk: what calls made again and again would make fills the one room of a run. */
-    private void callsMakeNothing(String[] lines) {
-        for (String line : lines) {
-            boolean kept = line.matches(" +(private )?final .* = new .*;") || line.contains("rows[i] = new Row();");
-            boolean made = line.contains("new ") && !line.contains("throw new ") && !line.trim().startsWith("//");
-            check.due("<" + line.trim() + "> makes no object in a call", made && !kept, false);
-        }
     }
 
     private void aDeskIsSmall() throws IllegalAccessException {

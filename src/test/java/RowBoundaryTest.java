@@ -558,7 +558,7 @@ public final class RowBoundaryTest extends Cases {
 
     // ---- the 512 calls that an object is used for ----
 
-    @Says("What it is: An object is used for at most 512 calls after it has been made")
+    @Says("What it is: An object is used for at most 512 calls after it has been made; what later calls answer is free")
     void lastCallsOfAnObject() {
         ModeDesk x = new ModeDesk();
         for (int i = 1; i <= 120; i++) {
