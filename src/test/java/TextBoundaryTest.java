@@ -382,6 +382,17 @@ public final class TextBoundaryTest extends Cases {
         fault("ties first 1;", 1, 11);
     }
 
+    @Says("==== 1: or can't stand there")
+    void wordsWhereTheNumberAheadWouldDo() {
+        fault("row 0;weight row 1;", 1, 13);
+        fault("row 2 0;weight first 3;", 1, 15);
+        fault("row 5;weight 0 2;weight 0 row;", 1, 26);
+        fault("row 0;weight 0 1;weight 0 2 0;", 1, 28);
+        fault("row 5 4;block row;", 1, 14);
+        fault("row 5 4;block ;", 1, 14);
+        fault("row 5 4;block", 1, 13);
+    }
+
     @Says("==== 1: (a word that is none of these")
     void wordsThatAreNone() {
         fault("rows 1;", 1, 0);
